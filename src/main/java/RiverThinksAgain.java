@@ -8,10 +8,14 @@ import java.util.NoSuchElementException;
 public final class RiverThinksAgain {
     public static final int NONE = -1;
 
-    // A river that is a lake comes to no column; the document tells that by the same number as "by none".
+    // The document tells many things by the same number; each has its own name here.
     private static final int LAKE = -2;
     private static final int BY_NONE = -2;
-    private static final int TOO_MUCH = -3;
+    private static final int NOT_SO_MUCH = -2;
+    private static final int NO_WALL_LEFT = -2;
+    private static final int IS_THERE = -2;
+    private static final int TOO_FEW_ENTRIES = -2;
+    private static final int TOO_HIGH = -3;
     private static final int SHEET_MISSING = -3;
     private static final int OUT_OF_ASKING = -100;
     private static final int LAW_IS_WRONG = -10000;
@@ -136,7 +140,7 @@ public final class RiverThinksAgain {
             return NONE;
         }
         if (kind < 3 && n < 0) {
-            return BY_NONE;
+            return TOO_FEW_ENTRIES;
         }
         int entries = kind == 3 ? 0 : n;
         int entry = f;
@@ -259,7 +263,7 @@ public final class RiverThinksAgain {
             return NONE;
         }
         if (state.heights[field] < n) {
-            return BY_NONE;
+            return NOT_SO_MUCH;
         }
         state.heights[field] -= n;
         return state.heights[field];
@@ -270,7 +274,7 @@ public final class RiverThinksAgain {
             return NONE;
         }
         if (now.heights[field] + n > MOST_HEIGHT) {
-            return TOO_MUCH;
+            return TOO_HIGH;
         }
         now.heights[field] += n;
         return now.heights[field];
@@ -281,7 +285,7 @@ public final class RiverThinksAgain {
             return NONE;
         }
         if (bit(state.walls, field) == 0 && Long.bitCount(state.walls) >= MOST_WALLS) {
-            return BY_NONE;
+            return NO_WALL_LEFT;
         }
         state.walls ^= 1L << field;
         return Long.bitCount(state.walls);
@@ -292,7 +296,7 @@ public final class RiverThinksAgain {
             return NONE;
         }
         if (column == now.source) {
-            return BY_NONE;
+            return IS_THERE;
         }
         int was = now.source;
         now.source = column;
@@ -1287,7 +1291,7 @@ public final class RiverThinksAgain {
             for (int i = 0; i < size; i++) {
                 int step = steps[i];
                 if (step >= 0) {
-                    top = Math.min(top + 1, MOST_RULE - 1);
+                    top = top < MOST_RULE - 1 ? top + 1 : top;
                     int thing = step - FIRST_THING;
                     pile[top] = thing >= 0 && thing < things.length ? things[thing] : step;
                     continue;
