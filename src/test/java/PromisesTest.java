@@ -322,6 +322,12 @@ public final class PromisesTest {
         dislike("2<1", 0, 0, 0);
         dislike("2>1", 1, 0, 0);
         dislike("2=2", 1, 0, 0);
+        dislike("2>2", 0, 0, 0);
+        dislike("2<2", 0, 0, 0);
+        dislike("-h", -7, 0, 0);
+        dislike("h", 7, 0, 0);
+        dislike("(h+1)", 8, 0, 0);
+        dislike("h", 7, 0, 0);
         dislike("1+1=2", 1, 0, 0);
         dislike("1<2+(3<4)", 1, 0, 0);
         dislike("10-3-2", 5, 0, 0);
@@ -618,17 +624,23 @@ public final class PromisesTest {
         due(1, x.count(4), "count(4)");
         due(0, x.count(7), "count(7)");
         due(5, x.undo(), "undo() of year()");
+        heights(0, 3, 1, 0, 3, 3);
+        due(1, x.count(2), "count(2)");
+        due(1, x.count(6), "count(6)");
         due(2, x.count(3), "count(3)");
         due(0, x.count(4), "count(4)");
         due(2, x.count(7), "count(7)");
         due(4, x.undo(), "undo() of source()");
         due(0, x.count(2), "count(2)");
+        due(1, x.count(6), "count(6)");
         due(3, x.undo(), "undo() of wall()");
         due(0, x.count(6), "count(6)");
+        due(3, x.field(5, 0), "field(5, 0)");
         due(2, x.undo(), "undo() of heap()");
         due(0, x.field(5, 0), "field(5, 0)");
         due(1, x.undo(), "undo() of cut()");
         due(1, x.field(5, 0), "field(5, 0)");
+        heights(0, 3, 1, 0, 3, 1);
         due(0, x.undo(), "undo() of tides()");
         heights(1, 1, 1, 1, 1, 1);
         due(0, x.count(7), "count(7)");
@@ -726,6 +738,7 @@ public final class PromisesTest {
         x.wall(3);
         due(2, x.sits(), "sits()");
         row(1);
+        promise19Last();
         begin(20);
         turningRiver();
         due(NONE, x.alters(0), "alters(0)");
@@ -759,10 +772,28 @@ public final class PromisesTest {
         row(3, 1);
         due(1 + 4 + 8 + 32, x.dry(1), "dry(1)");
         row(4, 2);
+        due(1 + 4 + 8 + 32, x.dry(2), "dry(2)");
+        row(4, 2);
         begin(22);
         land("66" + times("0", 36));
         due((1L << 36) - 1 - (1L | 1L << 6 | 1L << 12 | 1L << 18 | 1L << 24 | 1L << 30), x.dry(99), "dry(99)");
         row(30, 6);
+    }
+
+    // The forces come round by 20, t by 7: the tides 99 and 119 are the first where f is 1 and t is 1, or 0.
+    private static void promise19Last() {
+        begin(19);
+        text(times("0", 19) + "1");
+        x.force();
+        x.wall(3);
+        rule("(f=1)*(t=1)*(1-2*s)+s*(t<0)");
+        due(0, x.ahead(98), "ahead(98)");
+        due(99, x.sits(), "sits() in the last one");
+        row(1);
+        rule("(f=1)*(t=0)*(1-2*s)+s*(t<0)");
+        due(-2, x.sits(), "sits() in tide 119");
+        x.tides(20);
+        due(99, x.sits(), "sits() in tide 119");
     }
 
     // ---- walls that turn it
@@ -833,6 +864,13 @@ public final class PromisesTest {
         x.wall(0);
         due(1, x.longest(), "a wall at the source");
         row(0, 0);
+        x.source(1);
+        x.wall(0);
+        due(3, x.longest(), "from column 1");
+        row(3, 2);
+        x.wall(1);
+        due(0, x.longest(), "a wall at the source");
+        row(0, 0);
         land("36" + times("0", 18));
         int[] walls = {6, 7, 8, 9, 10, 12, 13, 14};
         for (int field : walls) {
@@ -851,6 +889,13 @@ public final class PromisesTest {
         land("22" + "0350");
         due(1, x.least(), "beside 3 + 2, below 5");
         row(1);
+        land("22" + "0930");
+        due(9, x.least(), "beside 9 + 2, below 3");
+        row(1);
+        land("22" + "3005");
+        x.source(1);
+        due(1, x.least(), "beside 3 + 2, below 5, from column 1");
+        row(0);
         land("22" + "0340");
         due(2, x.least(), "beside 3 + 2, below 4");
         row(1);
@@ -1217,6 +1262,7 @@ public final class PromisesTest {
         land("229999");
         due(0, x.years(1, 1), "years(1, 1)");
         row(35, 0);
+        due(true, x.years(14, 60) >= 0, "years(14, 60)");
         due(36, x.count(5), "nothing is changed");
         due(0, x.count(3) + x.count(4) + x.count(6) + x.count(11), "nothing is changed");
     }
@@ -1228,6 +1274,7 @@ public final class PromisesTest {
         land("23111111");
         due(false, x.keep(-1), "keep(-1)");
         due(false, x.keep(3), "keep(3)");
+        due(false, x.keep(64), "keep(64)");
         due(false, x.again(0), "again(0) of nothing");
         due(true, x.keep(0), "keep(0)");
         x.tides(2);
@@ -1243,6 +1290,8 @@ public final class PromisesTest {
         due(false, x.again(1), "again(1)");
         due(false, x.again(-1), "again(-1)");
         due(false, x.again(3), "again(3)");
+        due(false, x.again(64), "again(64)");
+        due(false, x.again(-64), "again(-64)");
         due(5, x.count(11), "a refused again() forgets nothing");
         due(true, x.again(2), "again(2)");
         int[] counts = {2, 3, 2, 2, 0, sum, 1, 2, 0, 0, 0, 0, 2, 0};
