@@ -502,10 +502,12 @@ public final class RiverThinksAgain {
     public int least() {
         river.flow(now, rule);
         river.rememberPath();
+        // Further off it does not look at a field.
+        long looked = river.on | land.around(river.on);
         dream.copy(now);
         for (int n = 1; n <= MOST_HEIGHT; n++) {
             for (int i = 0; i < land.fields; i++) {
-                if (altersIfCut(i, n)) {
+                if (bit(looked, i) == 1 && altersIfCut(i, n)) {
                     told.start();
                     told.add(i);
                     return n;
@@ -662,7 +664,7 @@ public final class RiverThinksAgain {
     }
 
     public int fits() {
-        int columns = fittingColumns();
+        int columns = fittingColumns(sightings.latest());
         told.start();
         told.add(Integer.bitCount(columns));
         return columns;
@@ -672,7 +674,7 @@ public final class RiverThinksAgain {
         if (n < 0 || n > MOST_SEEN_AHEAD) {
             return NONE;
         }
-        int columns = fittingColumns();
+        int columns = fittingColumns(Math.max(n, sightings.latest()));
         if (columns == 0) {
             return BY_NONE;
         }
@@ -690,12 +692,12 @@ public final class RiverThinksAgain {
         return best;
     }
 
-    private int fittingColumns() {
+    private int fittingColumns(int lastTide) {
         int columns = 0;
         for (int column = 0; column < land.columns; column++) {
             dream.copy(now);
             dream.source = column;
-            for (int tide = 0; tide <= MOST_SEEN_AHEAD; tide++) {
+            for (int tide = 0; tide <= lastTide && tide <= MOST_SEEN_AHEAD; tide++) {
                 river.pass(dream, rule, 1);
                 followed[placeOf(column, tide)] = river.on;
             }
@@ -1249,6 +1251,14 @@ public final class RiverThinksAgain {
             what[size] = newWhat;
             size++;
             return size;
+        }
+
+        int latest() {
+            int latest = NONE;
+            for (int i = 0; i < size; i++) {
+                latest = Math.max(latest, when[i]);
+            }
+            return latest;
         }
 
         int wipe() {
