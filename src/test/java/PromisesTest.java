@@ -1,13 +1,5 @@
-import java.util.NoSuchElementException;
-
 /** For each promise of the document: ordinary inputs, edges, wrong inputs; answers reckoned by hand. */
-public final class PromisesTest {
-    private static final int NONE = RiverThinksAgain.NONE;
-    private static final int LAKE = -2;
-    private static int wrong;
-    private static int promise;
-    private static RiverThinksAgain x;
-
+public final class PromisesTest extends Bench {
     public static void main(String[] args) {
         promise1();
         promise2And3();
@@ -36,119 +28,7 @@ public final class PromisesTest {
         promise42();
         promise43And44();
         promise45And46();
-        System.out.println(wrong == 0 ? "every promise held" : wrong + " answers are not as due");
-        System.exit(wrong == 0 ? 0 : 1);
-    }
-
-    // ---- how the tests say what they say
-
-    private static void begin(int number) {
-        promise = number;
-        x = new RiverThinksAgain();
-    }
-
-    private static void due(long want, long got, String what) {
-        if (want != got) {
-            wrong++;
-            System.out.println("promise " + promise + ": " + what + " answered " + got + ", due is " + want);
-        }
-    }
-
-    private static void due(boolean want, boolean got, String what) {
-        due(want ? 1 : 0, got ? 1 : 0, what);
-    }
-
-    private static void row(long... numbers) {
-        due(numbers.length, x.count(12), "numbers of the row");
-        for (int i = 0; i < numbers.length && i < x.count(12); i++) {
-            due(numbers[i], x.row(i), "row(" + i + ")");
-        }
-    }
-
-    /** The text is these signs alone. */
-    private static void text(String signs) {
-        due(true, x.end(0), "end(0)");
-        String padded = signs + "zzz";
-        for (int i = 0; i < signs.length(); i += 4) {
-            x.sign(padded.charAt(i) << 24 | padded.charAt(i + 1) << 16 | padded.charAt(i + 2) << 8
-                | padded.charAt(i + 3));
-        }
-        due(true, x.end(signs.length()), "end(" + signs.length() + ")");
-        due(signs.length(), x.count(13), "signs of the text");
-    }
-
-    private static void land(String signs) {
-        text(signs);
-        due(signs.length() - 2, x.land(), "land() of " + signs);
-    }
-
-    private static void rule(String signs) {
-        text(signs);
-        due(0, x.rule(), "rule() of " + signs);
-    }
-
-    private static void ruleIsWrong(String signs, int place) {
-        text(signs);
-        due(-1 - place, x.rule(), "rule() of " + signs);
-        due(0, x.count(13), "signs of the text behind rule()");
-        text(signs);
-        due(-10000 - place, x.law(), "law() of " + signs);
-        due(0, x.count(13), "signs of the text behind law()");
-    }
-
-    private static void dislike(String signs, int want, int field, int way) {
-        rule(signs);
-        due(want, x.dislikes(field, way), "dislikes(" + field + ", " + way + ") by " + signs);
-    }
-
-    private static void year(String signs, int want) {
-        text(signs);
-        due(want, x.year(), "year() of " + signs);
-        due(0, x.count(13), "signs of the text behind year()");
-    }
-
-    private static void heights(int... heights) {
-        for (int i = 0; i < heights.length; i++) {
-            due(heights[i], x.field(i, 0), "field(" + i + ", 0)");
-        }
-    }
-
-    private static void noField(int field, int what) {
-        boolean threw = false;
-        try {
-            x.field(field, what);
-        } catch (NoSuchElementException e) {
-            threw = true;
-        }
-        due(true, threw, "field(" + field + ", " + what + ") throws");
-    }
-
-    private static void noDislike(int field, int way) {
-        boolean threw = false;
-        try {
-            x.dislikes(field, way);
-        } catch (NoSuchElementException e) {
-            threw = true;
-        }
-        due(true, threw, "dislikes(" + field + ", " + way + ") throws");
-    }
-
-    private static void noRow(int i) {
-        boolean threw = false;
-        try {
-            x.row(i);
-        } catch (NoSuchElementException e) {
-            threw = true;
-        }
-        due(true, threw, "row(" + i + ") throws");
-    }
-
-    private static String times(String signs, int n) {
-        StringBuilder all = new StringBuilder();
-        for (int i = 0; i < n; i++) {
-            all.append(signs);
-        }
-        return all.toString();
+        stop();
     }
 
     // ---- land, tides
@@ -935,12 +815,6 @@ public final class PromisesTest {
         row(NONE);
     }
 
-    private static void timetable(String ships, int n, int want) {
-        text(ships);
-        due(want, x.timetable(n), "timetable(" + n + ") of " + ships);
-        due(0, x.count(13), "signs of the text behind timetable()");
-    }
-
     private static void promise28() {
         begin(28);
         timetable("1234", 3, 3);
@@ -1050,7 +924,7 @@ public final class PromisesTest {
         due(NONE, x.seen(0, 0, 0), "an eleventh");
         due(10, x.count(9), "count(9)");
         due(4, x.fits(), "fits()");
-        promise = 32;
+        goOn("promise 32");
         due(10, x.forget(), "forget()");
         due(0, x.forget(), "forget() of none");
         due(0, x.count(9), "count(9)");
@@ -1121,7 +995,7 @@ public final class PromisesTest {
         }
         due(NONE, x.marked(0, 0), "an eleventh");
         due(10, x.count(10), "count(10)");
-        promise = 36;
+        goOn("promise 36");
         due(10, x.wiped(), "wiped()");
         due(0, x.wiped(), "wiped() of none");
         due(0, x.count(10), "count(10)");
@@ -1189,12 +1063,6 @@ public final class PromisesTest {
             due(NONE, x.open(o[0], o[1], o[2]), "open() of others");
         }
         row(1, 2);
-    }
-
-    private static void law(String signs, int want) {
-        text(signs);
-        due(want, x.law(), "law() of " + signs);
-        due(0, x.count(13), "signs of the text behind law()");
     }
 
     private static void promise40() {
@@ -1286,7 +1154,7 @@ public final class PromisesTest {
         x.wall(2);
         x.tides(1);
         due(1, x.count(4), "count(4)");
-        promise = 44;
+        goOn("promise 44");
         due(false, x.again(1), "again(1)");
         due(false, x.again(-1), "again(-1)");
         due(false, x.again(3), "again(3)");
