@@ -170,6 +170,8 @@ public final class EdgesTest extends Bench {
         x.tides(1);
         x.source(2);
         x.tides(1);
+        x.source(1);
+        x.tides(1);
         x.seen(0, 0, 0);
         x.marked(0, 0);
     }
@@ -178,7 +180,8 @@ public final class EdgesTest extends Bench {
         begin("4: THE TEXT is LAND anew");
         used();
         due(1, x.count(4), "LAKES ahead of it");
-        due(6, x.count(11), "what can be undone ahead of it");
+        due(8, x.count(11), "what can be undone ahead of it");
+        due(1, x.field(1, 2), "THE BED ahead of it");
         land("32" + "654321");
         heights(6, 5, 4, 3, 2, 1);
         goOn("4: there are no WALLS, no BED, SOURCE, TIDE and LAKES are 0");

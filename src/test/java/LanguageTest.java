@@ -1,4 +1,6 @@
 import java.io.IOException;
+import java.lang.reflect.Field;
+import java.lang.reflect.Modifier;
 import java.nio.file.Files;
 import java.nio.file.Path;
 import java.util.ArrayList;
@@ -16,6 +18,11 @@ public final class LanguageTest {
     private static final int LINES_AT_MOST = 60;
     private static final int PARAMETERS_AT_MOST = 7;
     private static final int CLASSES_AT_MOST = 12;
+    private static final int FIELDS_AT_MOST = 20;
+    private static final List<Class<?>> CONSTANTS = List.of(int.class, long.class, boolean.class, char.class,
+        String.class, int[].class, long[].class, char[].class, byte[].class);
+    private static final List<Class<?>> HELD = List.of(int.class, long.class, boolean.class, char.class,
+        int[].class, long[].class, char[].class);
     private static int wrong;
 
     public static void main(String[] args) throws IOException {
@@ -35,6 +42,10 @@ public final class LanguageTest {
         }
         check(code.split("\\bclass\\b").length - 1 <= CLASSES_AT_MOST, "at most twelve classes");
         checkMethods(code);
+        checkFields(RiverThinksAgain.class);
+        for (Class<?> inside : RiverThinksAgain.class.getDeclaredClasses()) {
+            checkFields(inside);
+        }
         System.exit(wrong == 0 ? 0 : 1);
     }
 
@@ -56,6 +67,22 @@ public final class LanguageTest {
             check(end - i + 1 <= LINES_AT_MOST, method.group(1) + " has at most sixty lines");
             check(parameters.size() <= PARAMETERS_AT_MOST, method.group(1) + " has at most seven parameters");
         }
+    }
+
+    private static void checkFields(Class<?> owner) {
+        int held = 0;
+        for (Field field : owner.getDeclaredFields()) {
+            Class<?> type = field.getType();
+            if (Modifier.isStatic(field.getModifiers())) {
+                check(Modifier.isFinal(field.getModifiers()) && CONSTANTS.contains(type), field + " is a constant");
+                continue;
+            }
+            held++;
+            Class<?> one = type.isArray() ? type.getComponentType() : type;
+            boolean isOwn = one.getName().startsWith("RiverThinksAgain$");
+            check(isOwn || HELD.contains(type), field + " is of a type that may be");
+        }
+        check(held <= FIELDS_AT_MOST, owner + " has at most twenty fields beside its constants");
     }
 
     private static void check(boolean holds, String what) {

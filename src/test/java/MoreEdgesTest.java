@@ -108,6 +108,13 @@ public final class MoreEdgesTest extends Bench {
         sends(2, 2, 0, 4);
         land("32" + times("0", 6));
         sends(1, 1, 2);
+        goOn("23: on FIELDS without one now");
+        land("66" + times("0", 36));
+        x.wall(6);
+        x.ahead(0);
+        x.tides(0);
+        x.wall(6);
+        sends(1, 1, 6);
         goOn("23: THE COURSE of this TIDE");
         land("23" + "000000");
         rule("s-2*s*(t=1)");
@@ -373,7 +380,27 @@ public final class MoreEdgesTest extends Bench {
         row(NONE, NONE, NONE, 5);
         timetable("6475", 4, 4);
         row(2, 0, 3, 1);
-        goOn("28: none comes in");
+        goOn("28: the most that come in, where the least TIDE for one is the only one for another");
+        land("22" + "0005");
+        force("01", 2);
+        rule("s-2*s*f");
+        // In TIDE 0 it goes straight, over 0; in TIDE 1 beside and over 3, which is 6 high then.
+        timetable("39", 2, 2);
+        row(1, 0);
+        timetable("399", 2, 2);
+        row(1, NONE, 0);
+        timetable("93", 2, 2);
+        row(0, 1);
+        timetable("3393", 2, 2);
+        row(NONE, NONE, 0, 1);
+        timetable("4", 1, 1);
+        row(0);
+        land("22" + "0007");
+        force("101", 3);
+        // Beside over 7, straight over 1, beside over 7 again.
+        timetable("228", 3, 3);
+        row(0, 2, 1);
+        begin("28: none comes in");
         x.wall(0);
         timetable("11", 20, 0);
         row(NONE, NONE);
@@ -615,7 +642,12 @@ public final class MoreEdgesTest extends Bench {
         reed(0, 0, 1);
         reed(19, 0, 1);
         reed(20, 2, 1);
+        besideIn20();
+        goOn("34: such COLUMNS: what was seen may be later than n");
+        x.seen(20, 3, 1);
+        reed(0, 0, 1);
         goOn("34: -2: none fits");
+        x.forget();
         x.seen(0, 0, 1);
         x.seen(0, 0, 0);
         reed(0, -2, 1);

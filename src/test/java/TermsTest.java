@@ -15,6 +15,7 @@ public final class TermsTest extends Bench {
         ruleInItself();
         ruleAsInts();
         ruleThings();
+        allGoByTheRule();
         courseBegins();
         courseEnds();
         courseChooses();
@@ -188,6 +189,8 @@ public final class TermsTest extends Bench {
         ruleIsWrong("(1234)", 4);
         ruleIsWrong("h9", 1);
         ruleIsWrong("(h)9", 3);
+        ruleIsWrong("(9)9", 3);
+        ruleIsWrong("(h+9)9", 5);
         ruleIsWrong("9h", 1);
         ruleIsWrong("9(", 1);
         ruleIsWrong("1 2", 1);
@@ -384,6 +387,54 @@ public final class TermsTest extends Bench {
         x.sign(sign << 24);
         x.end(1);
         return sign << 24;
+    }
+
+    /** By each of these it goes beside first: 0, 1, 3. */
+    private static void allGoByTheRule() {
+        String[] rules = {"-s", "s-2*s*f", "0-(s+1>f)*s", "9-(h+s)*2+s"};
+        for (String rule : rules) {
+            begin("all that asks for THE COURSE goes by THE RULE, and by TIDES: " + rule);
+            land("220000");
+            force("1", 1);
+            rule(rule);
+            course(1, 0, 1, 3);
+            int[] on = {1, 1, 0, 1};
+            for (int i = 0; i < on.length; i++) {
+                due(on[i], x.field(i, 3), "field(" + i + ", 3)");
+            }
+            due(1, x.ahead(0), "ahead(0)");
+            row(3, 0);
+            x.ahead(1);
+            due(1, x.row(1), "HEIGHT of all together in a TIDE");
+            due(2, x.mouths(1), "mouths(1)");
+            row(0, 1, 0);
+            due(4, x.dry(1), "dry(1)");
+            row(1, 3);
+            due(1, x.sends(0), "sends(0)");
+            row(1);
+            due(0, x.sends(1), "sends(1)");
+            due(2, x.longest(), "longest()");
+            row(3, 3);
+            text("");
+            due(0, x.law(), "law() of none");
+            row(2, 3);
+            x.seen(0, 2, 1);
+            due(2, x.fits(), "fits()");
+            x.forget();
+            due(1, x.years(0, 1), "years(0, 1): a TIDE");
+            row(1, 0);
+            due(1, x.sheet(2, 2, 0, 1), "sheet()");
+            due(8, x.draught(), "draught()");
+            row(1);
+            timetable("98", 1, 1);
+            row(NONE, 0);
+            x.sheet(3, 0, 0, 0);
+            year("n1", 1);
+            due(3, x.count(7), "THE BED of a year");
+            x.undo();
+            due(1, x.tides(1), "tides(1)");
+            row(1, 3);
+        }
     }
 
     // ---- 1. THE COURSE
