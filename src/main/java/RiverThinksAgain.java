@@ -520,7 +520,7 @@ public final class RiverThinksAgain {
     private int fewestWalls(int wanted) {
         river.look(now, rule);
         for (int more = 0; more <= MOST_WALLS_MORE; more++) {
-            long walls = turningWalls(more, 0, 0L, wanted);
+            long walls = turningWalls(river, more, 0, 0L, wanted);
             if (walls != NONE) {
                 told.start();
                 told.addSet(walls);
@@ -531,17 +531,17 @@ public final class RiverThinksAgain {
     }
 
     // Fewer walls were tried in vain already, and a last one off the course would leave it as it is.
-    private long turningWalls(int more, int from, long walls, int wanted) {
-        river.trace(now.walls | walls);
+    private static long turningWalls(River river, int more, int from, long walls, int wanted) {
+        river.trace(river.state.walls | walls);
         if (more <= 0) {
             return river.mouth == wanted ? walls : NONE;
         }
-        long worthTrying = (more == 1 ? river.on : land.all) & ~now.walls;
-        for (int i = from; i < land.fields; i++) {
-            if (i == now.source || bit(worthTrying, i) == 0) {
+        long worthTrying = (more == 1 ? river.on : river.land.all) & ~river.state.walls;
+        for (int i = from; i < river.land.fields; i++) {
+            if (i == river.state.source || bit(worthTrying, i) == 0) {
                 continue;
             }
-            long found = turningWalls(more - 1, i + 1, walls | 1L << i, wanted);
+            long found = turningWalls(river, more - 1, i + 1, walls | 1L << i, wanted);
             if (found != NONE) {
                 return found;
             }
@@ -591,7 +591,7 @@ public final class RiverThinksAgain {
         long dams = 0;
         int most = 0;
         for (int more = 0; more <= WAYS; more++) {
-            dams = damsBelow(more, land.fields, 0L);
+            dams = damsBelow(land, now, more, land.fields, 0L);
             most = more;
             if (dams != NONE) {
                 break;
@@ -619,15 +619,15 @@ public final class RiverThinksAgain {
 
     // As many ways keep apart as the fewest fields that dam them all (Menger), and the source has but
     // three neighbours. Sets go by their highest field, so that the first one found is the least.
-    private long damsBelow(int more, int limit, long dams) {
+    private static long damsBelow(Land land, State state, int more, int limit, long dams) {
         if (more <= 0) {
-            return comesDown(now.walls | dams) ? NONE : dams;
+            return comesDown(land, state.source, state.walls | dams) ? NONE : dams;
         }
         for (int i = more - 1; i < limit; i++) {
-            if (i == now.source) {
+            if (i == state.source) {
                 continue;
             }
-            long found = damsBelow(more - 1, i, dams | 1L << i);
+            long found = damsBelow(land, state, more - 1, i, dams | 1L << i);
             if (found != NONE) {
                 return found;
             }
@@ -635,8 +635,8 @@ public final class RiverThinksAgain {
         return NONE;
     }
 
-    private boolean comesDown(long shut) {
-        long flooded = 1L << now.source & ~shut;
+    private static boolean comesDown(Land land, int source, long shut) {
+        long flooded = 1L << source & ~shut;
         for (int i = 0; i < land.fields; i++) {
             long wider = flooded | land.around(flooded) & ~shut;
             if ((wider & land.lastRow) != 0) {

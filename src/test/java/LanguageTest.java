@@ -66,6 +66,10 @@ public final class LanguageTest {
             List<String> parameters = new ArrayList<>(List.of(method.group(2).split(",")));
             check(end - i + 1 <= LINES_AT_MOST, method.group(1) + " has at most sixty lines");
             check(parameters.size() <= PARAMETERS_AT_MOST, method.group(1) + " has at most seven parameters");
+            String body = String.join("\n", List.of(lines).subList(i + 1, end));
+            boolean callsItself = Pattern.compile("(?<![\\w.])" + method.group(1) + "\\(").matcher(body).find();
+            check(!callsItself || lines[i].contains("private static "), method.group(1)
+                + ", which calls itself, is private and static");
         }
     }
 
